@@ -1,0 +1,173 @@
+/** Promises 25 and 26: undo and digest. */
+public final class UndoAndDigestTest {
+    private static final Class<?> STATE = IllegalStateException.class;
+    private static final Class<?> ARGUMENT = IllegalArgumentException.class;
+
+    private static final Check CHECK = new Check();
+
+    public static void main(String[] arguments) {
+        everyCallIsUndone();
+        fourStates();
+        refusedCallsSaveNothing();
+        readsSaveNothing();
+        textAndStopAreNotSaved();
+        digest();
+        CHECK.end();
+    }
+
+    private static NestedBells busy() {
+        NestedBells x = new NestedBells();
+        x.addSource(3, 0, 20);
+        x.addSource(7, 1, 5);
+        x.addSource(9, 0, 5);
+        x.addSection(0, 3, 30, 8);
+        x.addSection(2, 0, 3, 9);
+        x.setTimer(0, 0, 17);
+        x.setLine(1, true);
+        x.run(33);
+        return x;
+    }
+
+    /** The digest without the number of states that can be undone, which the call itself changes. */
+    private static long stateOf(NestedBells x) {
+        long h = 0;
+        for (int what = 0; what < 12; what++) {
+            h = 31 * h + x.processor(what);
+        }
+        for (int what = 0; what < 10; what++) {
+            h = 31 * h + x.account(what);
+        }
+        for (int source = 0; source < x.processor(11); source++) {
+            for (int what = 0; what < 17; what++) {
+                h = 31 * h + x.source(source, what);
+            }
+            h = 31 * h + x.blocking(source) + x.entersAfter(source, 100);
+        }
+        for (int place = 0; place < 12; place++) {
+            h = 31 * h + x.stack(place);
+        }
+        for (int event = 0; event < 20; event++) {
+            h = 31 * h + 5 * x.log(event, 0) + 7 * x.log(event, 1) + x.log(event, 2);
+        }
+        return h;
+    }
+
+    private static void undone(String call, java.util.function.Consumer<NestedBells> made) {
+        NestedBells x = busy();
+        long before = stateOf(x);
+        x.set(1, x.processor(2));
+        x.set(1, x.processor(2));
+        x.set(1, x.processor(2));
+        CHECK.due("states before", x.undo(), 3);
+        made.accept(x);
+        CHECK.due("undo() of " + call, x.undo(), 3);
+        CHECK.due("state behind undo() of " + call, stateOf(x), before);
+    }
+
+    private static void everyCallIsUndone() {
+        undone("addSource", x -> x.addSource(1, 0, 1));
+        undone("setSource", x -> x.setSource(2, 0, 1));
+        undone("setSource to what it is", x -> x.setSource(2, 0, 9));
+        undone("addSection", x -> x.addSection(2, 2, 2, 15));
+        undone("clearSections", x -> x.clearSections(2));
+        undone("clearSections without one", x -> x.clearSections(1));
+        undone("setTimer", x -> x.setTimer(0, 5, 5));
+        undone("raise", x -> x.raise(2));
+        undone("setLine", x -> x.setLine(1, false));
+        undone("setLine to what it is", x -> x.setLine(1, true));
+        undone("set", x -> x.set(3, 50));
+        undone("run(1)", x -> x.run(1));
+        undone("run(500)", x -> x.run(500));
+        undone("runCommands", x -> x.runCommands());
+    }
+
+    private static void fourStates() {
+        NestedBells x = new NestedBells();
+        CHECK.refused("undo() of nothing", x, STATE, () -> x.undo());
+        for (int i = 1; i <= 9; i++) {
+            x.run(i);
+        }
+        CHECK.due("undo()", x.undo(), 3);
+        CHECK.due("time", x.processor(0), 36);
+        CHECK.due("undo()", x.undo(), 2);
+        CHECK.due("time", x.processor(0), 28);
+        x.run(100);
+        CHECK.due("undo()", x.undo(), 2);
+        CHECK.due("time", x.processor(0), 28);
+        CHECK.due("undo()", x.undo(), 1);
+        CHECK.due("undo()", x.undo(), 0);
+        CHECK.due("time", x.processor(0), 15);
+        CHECK.refused("undo() of a state that was dropped", x, STATE, () -> x.undo());
+        x.run(7);
+        CHECK.due("undo()", x.undo(), 0);
+        CHECK.due("time", x.processor(0), 15);
+    }
+
+    private static void refusedCallsSaveNothing() {
+        NestedBells x = new NestedBells();
+        x.run(3);
+        CHECK.refused("run(0)", x, ARGUMENT, () -> x.run(0));
+        CHECK.refused("set(0, 16)", x, ARGUMENT, () -> x.set(0, 16));
+        CHECK.refused("addSource(0, 0, 0)", x, ARGUMENT, () -> x.addSource(0, 0, 0));
+        CHECK.due("undo()", x.undo(), 0);
+        CHECK.due("time", x.processor(0), 0);
+    }
+
+    private static void readsSaveNothing() {
+        NestedBells x = busy();
+        x.undo();
+        long before = x.digest();
+        stateOf(x);
+        x.latencyIf(2, 1000);
+        x.idleAfter(1000);
+        x.section(0, 0, 3);
+        x.stop();
+        CHECK.due("digest() behind reads", x.digest(), before);
+        CHECK.due("undo()", x.undo(), 2);
+    }
+
+    private static void textAndStopAreNotSaved() {
+        NestedBells x = new NestedBells();
+        x.run(1);
+        x.type('u');
+        x.type('p');
+        x.type(' ');
+        x.type('0');
+        x.type(';');
+        CHECK.due("undo() of the run before", x.undo(), 0);
+        CHECK.due("the text stays", x.runCommands(), 0);
+        CHECK.due("stop()", x.stop(), 1);
+        x.undo();
+        CHECK.due("the stop stays", x.stop(), 1);
+        CHECK.due("clearCommands()", x.clearCommands(), 5);
+    }
+
+    private static long hash(long... values) {
+        long h = 43211;
+        for (long v : values) {
+            h = 31 * h + v;
+        }
+        return h;
+    }
+
+    private static void digest() {
+        NestedBells x = new NestedBells();
+        CHECK.due("digest() of a new object", x.digest(),
+                hash(0, 0, 0, 0, 0, 12, 10, 6, 0, -1, 0, 0, -1, 0, 0, 0, 0, 0, 0, 0, 0, 0, 0, 0, 0));
+        x.addSource(4, 0, 20);
+        x.addSource(6, 1, 3);
+        x.addSection(0, 5, 6, 7);
+        x.raise(0);
+        x.raise(0);
+        x.run(13);
+        x.type(65);
+        CHECK.due("digest()", x.digest(), hash(4, 1, 0,
+                13, 0, 12, 10, 6, 4, -1, 1, 0, -1, 0, 2,
+                0, 1, 12, 0, 0, 0, 0, 1, 1, 12,
+                4, 0, 20, 1, 0, 0, 0, 1, 1, 0, 1, 12, 12, 0, 1, -1, -1,
+                5, 6, 7, 0,
+                6, 1, 3, 1, 0, 0, -1, 0, 0, 0, 0, -1, -1, 0, 0, -1, -1,
+                0,
+                1, 0, 12, 3, 0, 0));
+    }
+}
