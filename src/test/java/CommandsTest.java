@@ -89,6 +89,16 @@ public final class CommandsTest {
         fault("timer 0 1;", 9);
         fault("up 0 1;", 5);
         fault("\0", 0);
+        fault("raisez 1;", 0);
+        fault("xun 1;", 0);
+        fault("rux 1;", 0);
+        fault("run 1 run 2 run 3;", 6);
+        fault("raise run", 6);
+        fault("raise ; raise", 6);
+        fault("edge 1 2;".repeat(16) + "run 12", 150);
+        fault("edge 1 2;".repeat(16) + " run 1", 150);
+        fault("edge 1 2;".repeat(16) + "   run", 150);
+        fault("edge 1 2;".repeat(16) + "   ran", 147);
     }
 
     private static void noFaults() {
@@ -108,6 +118,7 @@ public final class CommandsTest {
         CHECK.due("the text stays", x.runCommands(), 25);
         CHECK.due("time", x.processor(0), 56);
         CHECK.due("clearCommands()", x.clearCommands(), 150);
+        CHECK.due("the bytes of an older text do not count", write(x, "run 1"), -15);
     }
 
     private static void everyCommand() {
@@ -126,6 +137,10 @@ public final class CommandsTest {
         }
         CHECK.due("entry cost", x.processor(2), 8);
         CHECK.due("ticks left of the entry", x.processor(10), 1);
+        CHECK.due("down", write(x, "down 1;"), 1);
+        CHECK.due("the line", x.source(1, 5), 0);
+        CHECK.due("up", write(x, "up 1;"), 1);
+        CHECK.due("the line", x.source(1, 5), 1);
     }
 
     private static void stops() {

@@ -134,6 +134,10 @@ public final class ForecastsTest {
         x.clearSections(0);
         x.addSection(0, 19, 1, 6);
         CHECK.due("the last tick of the handler", x.blocking(1), 1);
+        x.clearSections(0);
+        CHECK.due("only behind the handler", x.blocking(1), 0);
+        x.addSection(0, 20, 1, 15);
+        CHECK.due("just behind the handler", x.blocking(1), 0);
     }
 
     private static void arguments() {

@@ -68,6 +68,7 @@ public final class SourcesTest {
         CHECK.due("setSource(0, 1, 1)", x.setSource(0, 1, 1), 500);
         CHECK.due("setSource(0, 2, 0)", x.setSource(0, 2, 0), 1);
         CHECK.due("setSource(0, 2, 0) again", x.setSource(0, 2, 0), 0);
+        CHECK.due("not enabled", x.source(0, 3), 0);
         CHECK.due("setSource(0, 2, 1)", x.setSource(0, 2, 1), 0);
         CHECK.due("priority", x.source(0, 0), 1);
         CHECK.due("length", x.source(0, 2), 1);

@@ -22,6 +22,8 @@ public final class TicksTest {
         equalPriorities();
         changedCostInAChange();
         lineThatComesUpOnTheStack();
+        shortestExit();
+        twelveSources();
         CHECK.end();
     }
 
@@ -144,6 +146,8 @@ public final class TicksTest {
         CHECK.due("run to its end", x.run(14), 1);
         x.run(1);
         change(x, "its own tail", 3, 0, 5);
+        x.run(5);
+        CHECK.due("latency since it was raised on the stack", x.source(0, 11), 35);
     }
 
     private static void lateArrival() {
@@ -363,6 +367,41 @@ public final class TicksTest {
         CHECK.due("on the stack", x.stack(0), 0);
         CHECK.due("run(1)", x.run(1), 1);
         change(x, "no exit", 0, -1, 0);
+    }
+
+    private static void shortestExit() {
+        NestedBells x = new NestedBells();
+        x.addSource(4, 0, 1);
+        x.set(2, 1);
+        x.raise(0);
+        x.run(13);
+        change(x, "an exit of one tick", 2, -1, 1);
+        x.run(1);
+        change(x, "behind it", 0, -1, 0);
+        CHECK.due("ticks of changes", x.account(2), 13);
+    }
+
+    private static void twelveSources() {
+        NestedBells x = new NestedBells();
+        for (int i = 0; i < 12; i++) {
+            x.addSource(i + 1, 0, 20);
+            x.addSection(i, 0, 20, i + 1);
+            x.setTimer(i, 4 * i, 1000);
+        }
+        x.set(1, 0);
+        x.run(48);
+        CHECK.due("all on the stack", x.processor(7), 12);
+        CHECK.due("level", x.processor(5), 12);
+        for (int i = 0; i < 12; i++) {
+            CHECK.due("stack(" + i + ")", x.stack(i), i);
+            CHECK.due("preempted " + i, x.source(i, 13), i == 11 ? 0 : 1);
+        }
+        CHECK.due("stack(12)", x.stack(12), -1);
+        CHECK.due("greatest number of handlers", x.account(8), 12);
+        CHECK.due("blocking(11)", x.blocking(11), 0);
+        x.raise(0);
+        CHECK.due("all the others, and the lowest one twice", x.run(500), 13);
+        CHECK.due("latency of the one below them all: 192 ticks, 11 exits, a tail", x.source(0, 11), 192 + 110 + 6);
     }
 
     private static void lineThatComesUpOnTheStack() {

@@ -41,7 +41,8 @@ public final class UndoAndDigestTest {
             for (int what = 0; what < 17; what++) {
                 h = 31 * h + x.source(source, what);
             }
-            h = 31 * h + x.blocking(source) + x.entersAfter(source, 100);
+            h = 31 * h + sectionsOf(x, source);
+            h = 31 * h + 7 * x.blocking(source) + x.entersAfter(source, 100);
         }
         for (int place = 0; place < 12; place++) {
             h = 31 * h + x.stack(place);
@@ -52,16 +53,32 @@ public final class UndoAndDigestTest {
         return h;
     }
 
+    private static long sectionsOf(NestedBells x, int source) {
+        long h = 0;
+        try {
+            for (int section = 0; section < 2; section++) {
+                for (int what = 0; what < 4; what++) {
+                    h = 31 * h + x.section(source, section, what);
+                }
+            }
+        } catch (IndexOutOfBoundsException e) {
+            return h;
+        }
+        return h;
+    }
+
     private static void undone(String call, java.util.function.Consumer<NestedBells> made) {
+        undone(call, 1, made);
+    }
+
+    private static void undone(String calls, int count, java.util.function.Consumer<NestedBells> made) {
         NestedBells x = busy();
         long before = stateOf(x);
-        x.set(1, x.processor(2));
-        x.set(1, x.processor(2));
-        x.set(1, x.processor(2));
-        CHECK.due("states before", x.undo(), 3);
         made.accept(x);
-        CHECK.due("undo() of " + call, x.undo(), 3);
-        CHECK.due("state behind undo() of " + call, stateOf(x), before);
+        for (int i = 1; i <= count; i++) {
+            CHECK.due("undo() of " + calls, x.undo(), 4 - i);
+        }
+        CHECK.due("state behind undo() of " + calls, stateOf(x), before);
     }
 
     private static void everyCallIsUndone() {
@@ -78,7 +95,41 @@ public final class UndoAndDigestTest {
         undone("set", x -> x.set(3, 50));
         undone("run(1)", x -> x.run(1));
         undone("run(500)", x -> x.run(500));
-        undone("runCommands", x -> x.runCommands());
+        undone("runCommands without a command", x -> x.runCommands());
+        undone("runCommands", x -> {
+            for (char c : "run 100;set 0 9;".toCharArray()) {
+                x.type(c);
+            }
+            x.runCommands();
+        });
+        undone("other sections", 2, x -> {
+            x.clearSections(2);
+            x.addSection(2, 7, 8, 4);
+        });
+        undone("other sections, costs and sources", 4, x -> {
+            x.addSection(2, 7, 8, 4);
+            x.addSource(5, 0, 9);
+            x.set(2, 0);
+            x.setSource(1, 2, 0);
+        });
+        undone("a long run with the line down", 4, x -> {
+            x.setLine(1, false);
+            x.run(500);
+            x.raise(2);
+            x.run(333);
+        });
+        undone("an edge that has waited", 4, x -> {
+            x.set(0, 15);
+            x.raise(2);
+            x.run(100);
+            x.set(0, 0);
+        });
+        undone("the handlers in another order", 4, x -> {
+            x.setLine(1, false);
+            x.run(77);
+            x.raise(2);
+            x.run(14);
+        });
     }
 
     private static void fourStates() {
@@ -110,6 +161,12 @@ public final class UndoAndDigestTest {
         CHECK.refused("set(0, 16)", x, ARGUMENT, () -> x.set(0, 16));
         CHECK.refused("addSource(0, 0, 0)", x, ARGUMENT, () -> x.addSource(0, 0, 0));
         CHECK.due("undo()", x.undo(), 0);
+        CHECK.due("time", x.processor(0), 0);
+        for (int i = 1; i <= 4; i++) {
+            x.run(i);
+        }
+        CHECK.refused("run(501) with four states", x, ARGUMENT, () -> x.run(501));
+        CHECK.due("undo()", x.undo() + x.undo() + x.undo() + x.undo(), 6);
         CHECK.due("time", x.processor(0), 0);
     }
 
@@ -169,5 +226,20 @@ public final class UndoAndDigestTest {
                 6, 1, 3, 1, 0, 0, -1, 0, 0, 0, 0, -1, -1, 0, 0, -1, -1,
                 0,
                 1, 0, 12, 3, 0, 0));
+        x.setLine(1, true);
+        x.run(12);
+        x.clearCommands();
+        for (char c : "up 0;".toCharArray()) {
+            x.type(c);
+        }
+        CHECK.due("runCommands()", x.runCommands(), 0);
+        CHECK.due("digest() with a stop and two handlers", x.digest(), hash(4, 5, 3,
+                25, 0, 12, 10, 6, 6, -1, 2, 0, -1, 0, 2,
+                0, 1, 24, 0, 0, 1, 0, 1, 2, 24,
+                4, 0, 20, 1, 0, 0, 0, 1, 1, 0, 1, 12, 12, 1, 1, -1, -1,
+                5, 6, 7, 0,
+                6, 1, 3, 1, 0, 1, 1, 0, 1, 0, 0, 12, 12, 0, 0, -1, -1,
+                0, 1,
+                1, 1, 25, 6, 0, 13, 1, 0, 12, 3, 0, 0));
     }
 }
