@@ -81,6 +81,11 @@ public final class ForecastsTest {
         CHECK.due("pending already: too few ticks", x.latencyIf(1, 6), -1);
         x.run(10);
         CHECK.due("on the stack: of the next time", x.latencyIf(1, 1000), 33);
+        CHECK.due("on the stack: behind its 27 ticks and the exit", x.idleAfter(1000), 37);
+        x.raise(0);
+        x.run(3);
+        CHECK.due("pending for 3 ticks already: since it is so", x.latencyIf(0, 1000), 33);
+        CHECK.due("pending for 3 ticks already: ticks from now", x.entersAfter(0, 1000), 30);
         x.setSource(0, 2, 0);
         CHECK.due("not enabled", x.latencyIf(0, 1000), -1);
         x.set(1, 0);

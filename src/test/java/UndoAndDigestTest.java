@@ -7,6 +7,7 @@ public final class UndoAndDigestTest {
 
     public static void main(String[] arguments) {
         everyCallIsUndone();
+        stackAndLatenciesAreRestored();
         fourStates();
         refusedCallsSaveNothing();
         readsSaveNothing();
@@ -130,6 +131,29 @@ public final class UndoAndDigestTest {
             x.raise(2);
             x.run(14);
         });
+    }
+
+    private static void stackAndLatenciesAreRestored() {
+        NestedBells x = new NestedBells();
+        x.addSource(5, 0, 3);
+        x.addSource(6, 0, 4);
+        x.run(2);
+        x.raise(1);
+        x.run(12);
+        CHECK.due("stack(0)", x.stack(0), 1);
+        x.raise(0);
+        x.run(11);
+        CHECK.due("stack(0) later", x.stack(0), 0);
+        CHECK.due("undo()", x.undo(), 3);
+        CHECK.due("stack(0) behind undo()", x.stack(0), 1);
+        x.run(10);
+        CHECK.due("latency behind undo()", x.source(0, 11), 10);
+        CHECK.due("undo()", x.undo(), 3);
+        CHECK.due("undo()", x.undo(), 2);
+        CHECK.due("undo()", x.undo(), 1);
+        CHECK.due("time", x.processor(0), 2);
+        x.run(12);
+        CHECK.due("latency since the raise that was not undone", x.source(1, 11), 12);
     }
 
     private static void fourStates() {
