@@ -56,48 +56,36 @@ public final class TicksTest {
         CHECK.refused("run(least int)", x, ARGUMENT, () -> x.run(Integer.MIN_VALUE));
     }
 
-    private static void change(NestedBells x, String when, int kind, int source, int left) {
-        CHECK.due(when + ": kind of the change", x.processor(8), kind);
-        CHECK.due(when + ": source that is entered", x.processor(9), source);
-        CHECK.due(when + ": ticks that are left", x.processor(10), left);
-    }
-
-    private static void event(NestedBells x, int event, int kind, int source, int time) {
-        CHECK.due("kind of event " + event, x.log(event, 0), kind);
-        CHECK.due("source of event " + event, x.log(event, 1), source);
-        CHECK.due("time of event " + event, x.log(event, 2), time);
-    }
-
     private static void entryAndExit() {
         NestedBells x = new NestedBells();
         x.addSource(5, 0, 3);
         x.raise(0);
         x.run(1);
-        change(x, "in the entry", 1, 0, 11);
+        CHECK.change(x, "in the entry", 1, 0, 11);
         x.run(10);
-        change(x, "before its last tick", 1, 0, 1);
+        CHECK.change(x, "before its last tick", 1, 0, 1);
         CHECK.due("stack before", x.stack(0), -1);
         x.run(1);
-        change(x, "behind the entry", 0, -1, 0);
+        CHECK.change(x, "behind the entry", 0, -1, 0);
         CHECK.due("stack behind", x.stack(0), 0);
-        event(x, 0, 1, 0, 12);
+        CHECK.event(x, 0, 1, 0, 12);
         CHECK.due("ticks run at first", x.source(0, 7), 0);
         CHECK.due("run(2)", x.run(2), 0);
         CHECK.due("ticks run", x.source(0, 7), 2);
         CHECK.due("run(1) to its end", x.run(1), 1);
-        event(x, 0, 2, 0, 15);
-        change(x, "in the exit", 2, -1, 10);
+        CHECK.event(x, 0, 2, 0, 15);
+        CHECK.change(x, "in the exit", 2, -1, 10);
         x.run(9);
-        change(x, "before the last tick of the exit", 2, -1, 1);
+        CHECK.change(x, "before the last tick of the exit", 2, -1, 1);
         x.run(1);
-        change(x, "behind the exit", 0, -1, 0);
+        CHECK.change(x, "behind the exit", 0, -1, 0);
         CHECK.due("ticks of the main program", x.account(0), 0);
         x.run(2);
         int[] accounts = {2, 3, 22, 0, 0, 0, 0, 0, 1, 12};
         for (int what = 0; what < 10; what++) {
             CHECK.due("account(" + what + ")", x.account(what), accounts[what]);
         }
-        event(x, 2, -1, -1, -1);
+        CHECK.event(x, 2, -1, -1, -1);
     }
 
     private static void noCosts() {
@@ -107,9 +95,9 @@ public final class TicksTest {
         x.set(2, 0);
         x.raise(0);
         CHECK.due("entered, run and left in one tick", x.run(1), 1);
-        change(x, "behind it", 0, -1, 0);
-        event(x, 1, 1, 0, 0);
-        event(x, 0, 2, 0, 1);
+        CHECK.change(x, "behind it", 0, -1, 0);
+        CHECK.event(x, 1, 1, 0, 0);
+        CHECK.event(x, 0, 2, 0, 1);
         CHECK.due("latency", x.source(0, 11), 0);
         CHECK.due("ticks of handlers", x.account(1), 1);
         CHECK.due("ticks of changes", x.account(2), 0);
@@ -125,8 +113,8 @@ public final class TicksTest {
         x.run(17);
         x.raise(1);
         x.run(1);
-        change(x, "in the entry on top", 1, 1, 11);
-        event(x, 0, 6, 0, 17);
+        CHECK.change(x, "in the entry on top", 1, 1, 11);
+        CHECK.event(x, 0, 6, 0, 17);
         CHECK.due("preempted", x.source(0, 13), 1);
         CHECK.due("preemptions", x.account(5), 1);
         CHECK.due("level", x.processor(5), 3);
@@ -139,13 +127,13 @@ public final class TicksTest {
         CHECK.due("ticks run by the lower one", x.source(0, 7), 5);
         x.raise(0);
         CHECK.due("run(4)", x.run(4), 1);
-        change(x, "in the exit of the upper one", 2, -1, 10);
+        CHECK.change(x, "in the exit of the upper one", 2, -1, 10);
         x.run(11);
         CHECK.due("ticks run by the lower one, which goes on", x.source(0, 7), 6);
         CHECK.due("no more preemptions", x.account(5), 1);
         CHECK.due("run to its end", x.run(14), 1);
         x.run(1);
-        change(x, "its own tail", 3, 0, 5);
+        CHECK.change(x, "its own tail", 3, 0, 5);
         x.run(5);
         CHECK.due("latency since it was raised on the stack", x.source(0, 11), 35);
     }
@@ -158,8 +146,8 @@ public final class TicksTest {
         x.run(9);
         x.raise(1);
         x.run(1);
-        change(x, "taken over", 1, 1, 2);
-        event(x, 0, 4, 1, 9);
+        CHECK.change(x, "taken over", 1, 1, 2);
+        CHECK.event(x, 0, 4, 1, 9);
         CHECK.due("late arrivals", x.account(3), 1);
         x.run(2);
         CHECK.due("stack(0)", x.stack(0), 1);
@@ -168,7 +156,7 @@ public final class TicksTest {
         CHECK.due("no preemption", x.account(5), 0);
         x.run(4);
         x.run(1);
-        change(x, "the tail to the other one", 3, 0, 5);
+        CHECK.change(x, "the tail to the other one", 3, 0, 5);
         x.run(5);
         CHECK.due("latency of the other one", x.source(0, 11), 22);
         CHECK.due("sum of latencies", x.account(9), 25);
@@ -181,11 +169,11 @@ public final class TicksTest {
         x.setLine(0, true);
         x.raise(1);
         x.run(3);
-        change(x, "the more urgent one first", 1, 0, 9);
+        CHECK.change(x, "the more urgent one first", 1, 0, 9);
         x.setLine(0, false);
         x.run(1);
-        change(x, "the less urgent one instead", 1, 1, 8);
-        event(x, 0, 4, 1, 3);
+        CHECK.change(x, "the less urgent one instead", 1, 1, 8);
+        CHECK.event(x, 0, 4, 1, 3);
         CHECK.due("late arrivals", x.account(3), 1);
     }
 
@@ -195,16 +183,16 @@ public final class TicksTest {
         x.setLine(0, true);
         x.run(11);
         x.setLine(0, false);
-        change(x, "before the last tick", 1, 0, 1);
+        CHECK.change(x, "before the last tick", 1, 0, 1);
         CHECK.due("run(1)", x.run(1), 0);
-        change(x, "an exit instead", 2, -1, 9);
-        event(x, 0, 7, 0, 11);
+        CHECK.change(x, "an exit instead", 2, -1, 9);
+        CHECK.event(x, 0, 7, 0, 11);
         CHECK.due("spurious entries", x.account(6), 1);
         CHECK.due("handlers that came on top", x.source(0, 8), 0);
         CHECK.due("latency", x.source(0, 11), -1);
         x.setLine(0, true);
         x.run(1);
-        change(x, "the exit becomes a tail", 3, 0, 5);
+        CHECK.change(x, "the exit becomes a tail", 3, 0, 5);
     }
 
     private static void spuriousEntryWithoutExit() {
@@ -215,7 +203,7 @@ public final class TicksTest {
         x.run(2);
         x.set(0, 7);
         x.run(1);
-        change(x, "no exit", 0, -1, 0);
+        CHECK.change(x, "no exit", 0, -1, 0);
         CHECK.due("the tick is the main program's", x.account(0), 1);
         CHECK.due("spurious entries", x.account(6), 1);
         CHECK.due("still pending", x.source(0, 16), 2);
@@ -228,21 +216,21 @@ public final class TicksTest {
         x.raise(0);
         x.raise(1);
         CHECK.due("run(14)", x.run(14), 1);
-        change(x, "in the exit", 2, -1, 10);
+        CHECK.change(x, "in the exit", 2, -1, 10);
         CHECK.due("tails before", x.account(4), 0);
         x.run(1);
-        change(x, "in the tail", 3, 1, 5);
-        event(x, 0, 5, 1, 14);
+        CHECK.change(x, "in the tail", 3, 1, 5);
+        CHECK.event(x, 0, 5, 1, 14);
         CHECK.due("tails", x.account(4), 1);
         x.run(5);
-        event(x, 0, 1, 1, 20);
+        CHECK.event(x, 0, 1, 1, 20);
         CHECK.due("latency", x.source(1, 11), 20);
         x.run(8);
-        change(x, "in the next exit", 2, -1, 7);
+        CHECK.change(x, "in the next exit", 2, -1, 7);
         x.raise(0);
         x.run(1);
-        change(x, "a tail in the middle of an exit", 3, 0, 5);
-        event(x, 0, 5, 0, 28);
+        CHECK.change(x, "a tail in the middle of an exit", 3, 0, 5);
+        CHECK.event(x, 0, 5, 0, 28);
     }
 
     private static void tailWithoutCost() {
@@ -256,8 +244,8 @@ public final class TicksTest {
         x.run(1);
         CHECK.due("on the stack at once", x.stack(0), 1);
         CHECK.due("a tick of it is run", x.source(1, 7), 1);
-        event(x, 0, 1, 1, 14);
-        event(x, 1, 5, 1, 14);
+        CHECK.event(x, 0, 1, 1, 14);
+        CHECK.event(x, 1, 5, 1, 14);
     }
 
     private static void spuriousTail() {
@@ -267,11 +255,11 @@ public final class TicksTest {
         x.raise(0);
         x.raise(1);
         x.run(16);
-        change(x, "in the tail", 3, 1, 4);
+        CHECK.change(x, "in the tail", 3, 1, 4);
         x.setSource(1, 2, 0);
         x.run(1);
-        change(x, "in an exit again", 2, -1, 9);
-        event(x, 0, 7, 1, 16);
+        CHECK.change(x, "in an exit again", 2, -1, 9);
+        CHECK.event(x, 0, 7, 1, 16);
     }
 
     private static void sectionHoldsOff() {
@@ -297,7 +285,7 @@ public final class TicksTest {
         CHECK.due("ticks run in the section", x.source(0, 7), 5);
         CHECK.due("candidate", x.processor(6), 1);
         x.run(1);
-        change(x, "entry behind the section", 1, 1, 11);
+        CHECK.change(x, "entry behind the section", 1, 1, 11);
         NestedBells y = new NestedBells();
         y.addSource(3, 0, 20);
         y.addSource(8, 0, 4);
@@ -306,7 +294,7 @@ public final class TicksTest {
         y.run(13);
         y.raise(1);
         y.run(1);
-        change(y, "above the ceiling", 1, 1, 11);
+        CHECK.change(y, "above the ceiling", 1, 1, 11);
     }
 
     private static void sectionsOfHandlersBelow() {
@@ -348,11 +336,11 @@ public final class TicksTest {
         x.raise(0);
         CHECK.due("the lowest number of the most urgent", x.processor(6), 1);
         x.run(1);
-        change(x, "a late arrival of the lower number", 1, 1, 10);
+        CHECK.change(x, "a late arrival of the lower number", 1, 1, 10);
         x.run(10);
         x.run(2);
         x.run(1);
-        change(x, "then the other one of the priority", 3, 2, 5);
+        CHECK.change(x, "then the other one of the priority", 3, 2, 5);
     }
 
     private static void changedCostInAChange() {
@@ -362,11 +350,11 @@ public final class TicksTest {
         x.run(1);
         CHECK.due("set(1, 50)", x.set(1, 50), 12);
         CHECK.due("set(2, 0)", x.set(2, 0), 10);
-        change(x, "ticks that are left stay", 1, 0, 11);
+        CHECK.change(x, "ticks that are left stay", 1, 0, 11);
         x.run(11);
         CHECK.due("on the stack", x.stack(0), 0);
         CHECK.due("run(1)", x.run(1), 1);
-        change(x, "no exit", 0, -1, 0);
+        CHECK.change(x, "no exit", 0, -1, 0);
     }
 
     private static void shortestExit() {
@@ -375,9 +363,9 @@ public final class TicksTest {
         x.set(2, 1);
         x.raise(0);
         x.run(13);
-        change(x, "an exit of one tick", 2, -1, 1);
+        CHECK.change(x, "an exit of one tick", 2, -1, 1);
         x.run(1);
-        change(x, "behind it", 0, -1, 0);
+        CHECK.change(x, "behind it", 0, -1, 0);
         CHECK.due("ticks of changes", x.account(2), 13);
     }
 
@@ -414,7 +402,7 @@ public final class TicksTest {
         x.setLine(0, true);
         CHECK.due("not pending on the stack", x.source(0, 16), -1);
         x.run(3);
-        event(x, 0, 2, 0, 17);
+        CHECK.event(x, 0, 2, 0, 17);
         x.run(6);
         CHECK.due("latency since it went off", x.source(0, 11), 6);
         CHECK.due("greatest latency", x.source(0, 12), 12);
