@@ -208,6 +208,7 @@ public final class EdgesOfForecastsTest {
     private static void latencyOfOneThatIsPending() {
         NestedBells x = Made.with(new int[] {4, 0, 9});
         x.set(0, 15);
+        x.run(7);
         x.raise(0);
         x.run(500);
         x.run(500);

@@ -255,7 +255,7 @@ public final class EdgesOfUndoTest {
         x.raise(1);
         x.run(2);
         CHECK.change(x, "the entry", 1, 1, 10);
-        x.run(100);
+        Made.runText(x, "run 100;raise 0;raise 1;run 90;");
         CHECK.due("undo()", x.undo(), 3);
         CHECK.change(x, "the entry again", 1, 1, 10);
         CHECK.due("when it ends", x.entersAfter(1, 1000), 10);

@@ -60,9 +60,12 @@ public final class EdgesOfValuesTest {
     /** "7 ticks of its handler that have been run (0 if not on the stack)" and "14 ticks of its handlers so far" */
     private static void ticksThatHaveBeenRun() {
         NestedBells x = Made.with(new int[] {4, 0, 3});
+        CHECK.due("0 ahead of the first entry", x.source(0, 7), 0);
         for (int round = 0; round < 2; round++) {
             x.raise(0);
-            x.run(12);
+            x.run(11);
+            CHECK.due("0 in an entry", x.source(0, 7), 0);
+            x.run(1);
             for (int ticks = 0; ticks < 3; ticks++) {
                 CHECK.due("ticks that have been run", x.source(0, 7), ticks);
                 CHECK.due("ticks so far", x.source(0, 14), 3 * round + ticks);
