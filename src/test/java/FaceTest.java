@@ -7,15 +7,37 @@ import java.util.TreeSet;
 
 /** The public face: the constant, the constructor and the methods of the document, and nothing beside them. */
 public final class FaceTest {
-    private static final String INT = "int ";
+    private static final String INDEX = " IndexOutOfBoundsException";
+    private static final String ARGUMENT = " IllegalArgumentException";
+    private static final String STATE = " IllegalStateException";
+
+    /** Type, name and parameters of each method, and the exceptions that its declaration names, in their order. */
     private static final Set<String> FACE = new TreeSet<>(Arrays.asList(
-            INT + "addSource [int, int, int]", INT + "setSource [int, int, int]",
-            INT + "addSection [int, int, int, int]", INT + "clearSections [int]", INT + "setTimer [int, int, int]",
-            INT + "raise [int]", INT + "setLine [int, boolean]", INT + "set [int, int]", INT + "run [int]",
-            INT + "source [int, int]", INT + "section [int, int, int]", INT + "stack [int]",
-            INT + "processor [int]", INT + "account [int]", INT + "log [int, int]", INT + "entersAfter [int, int]",
-            INT + "idleAfter [int]", INT + "latencyIf [int, int]", INT + "blocking [int]", INT + "type [int]",
-            INT + "clearCommands []", INT + "runCommands []", INT + "stop []", INT + "undo []", "long digest []"));
+            "int addSource [int, int, int]" + ARGUMENT + STATE,
+            "int setSource [int, int, int]" + INDEX + ARGUMENT + STATE,
+            "int addSection [int, int, int, int]" + INDEX + ARGUMENT + STATE,
+            "int clearSections [int]" + INDEX + STATE,
+            "int setTimer [int, int, int]" + INDEX + ARGUMENT + STATE,
+            "int raise [int]" + INDEX + STATE,
+            "int setLine [int, boolean]" + INDEX + STATE,
+            "int set [int, int]" + ARGUMENT,
+            "int run [int]" + ARGUMENT,
+            "int source [int, int]" + INDEX + ARGUMENT,
+            "int section [int, int, int]" + INDEX + ARGUMENT,
+            "int stack [int]" + ARGUMENT,
+            "int processor [int]" + ARGUMENT,
+            "int account [int]" + ARGUMENT,
+            "int log [int, int]" + ARGUMENT,
+            "int entersAfter [int, int]" + INDEX + ARGUMENT,
+            "int idleAfter [int]" + ARGUMENT,
+            "int latencyIf [int, int]" + INDEX + ARGUMENT,
+            "int blocking [int]" + INDEX,
+            "int type [int]" + ARGUMENT + STATE,
+            "int clearCommands []",
+            "int runCommands []",
+            "int stop []",
+            "int undo []" + STATE,
+            "long digest []"));
 
     private static final Check CHECK = new Check();
 
@@ -43,8 +65,7 @@ public final class FaceTest {
         Set<String> names = new TreeSet<>();
         for (Method method : NestedBells.class.getDeclaredMethods()) {
             if (Modifier.isPublic(method.getModifiers())) {
-                face.add(method.getReturnType() + " " + method.getName() + " "
-                        + Arrays.toString(method.getParameterTypes()).replace("class ", ""));
+                face.add(declarationOf(method));
                 names.add(method.getName());
             } else if (!Modifier.isPrivate(method.getModifiers())) {
                 CHECK.tell("the method " + method.getName() + " is neither public nor private");
@@ -58,5 +79,14 @@ public final class FaceTest {
         if (!face.equals(FACE)) {
             CHECK.tell("the face is " + face + ", due is " + FACE);
         }
+    }
+
+    private static String declarationOf(Method method) {
+        StringBuilder text = new StringBuilder(method.getReturnType() + " " + method.getName() + " "
+                + Arrays.toString(method.getParameterTypes()));
+        for (Class<?> thrown : method.getExceptionTypes()) {
+            text.append(' ').append(thrown.getSimpleName());
+        }
+        return text.toString();
     }
 }
